@@ -77,9 +77,7 @@ public final class RainOffice {
         if (place.kind != NONE) {
             return NONE;
         }
-        place.bring(kind, x, y);
-        place.size = hasSize(kind) ? size : 0;
-        place.first = kind == POST ? 0 : net.today;
+        place.bring(kind, x, y, hasSize(kind) ? size : 0, kind == POST ? 0 : net.today);
         net.changes++;
         return p;
     }
@@ -415,10 +413,12 @@ public final class RainOffice {
             Arrays.fill(handed, NONE);
         }
 
-        void bring(int newKind, int newX, int newY) {
+        void bring(int newKind, int newX, int newY, int newSize, int firstDay) {
             kind = newKind;
             x = newX;
             y = newY;
+            size = newSize;
+            first = firstDay;
         }
 
         void clear() {

@@ -11,34 +11,26 @@ public final class DayPromisesTest {
         rawOfKinds();
         rawOfTipper();
         known();
+        knownBehindManyEntries();
         tooMuch();
         dryAmongWet();
         unlikeTwin();
         firstRuleCounts();
         states();
+        dryInAnyPlace();
         mendedByNearness();
+        mendedByNearAndFar();
         mendedBySums();
         mendedByFourNearest();
         from();
         spread();
         spreadRests();
+        spreadByNearest();
         spreadWithoutTeller();
         spreadSinceLastReading();
         wrongPlaces();
         noSuchDay();
         CHECK.end("DayPromisesTest");
-    }
-
-    private static RainOffice cans(int... squares) {
-        RainOffice o = new RainOffice();
-        for (int p = 0; p < squares.length / 2; p++) o.put(p, CAN, squares[2 * p], squares[2 * p + 1], 0);
-        return o;
-    }
-
-    /** A day's readings, by place; NONE is not read. Then the day ends. */
-    private static void day(RainOffice o, int... v) {
-        for (int p = 0; p < v.length; p++) if (v[p] != NONE) o.read(p, v[p]);
-        o.close();
     }
 
     private static void rawOfKinds() {
@@ -60,7 +52,9 @@ public final class DayPromisesTest {
         due("13 store", o.raw(3, 0), NONE);
         due("13 twin without the other", o.raw(4, 0), NONE);
         o.melt(2, 15);
+        due("17 snow that melted", o.number(2, 0), 15);
         o.melt(2, 6);
+        due("17 snow that melted further", o.number(2, 0), 21);
         o.other(4, 5);
         due("13 snow that melted", o.raw(2, 0), 21);
         due("13 twin: 9 times 3 by 2", o.raw(4, 0), 13);
@@ -105,7 +99,7 @@ public final class DayPromisesTest {
     }
 
     private static void known() {
-        RainOffice o = cans(0, 0);
+        RainOffice o = Scenes.cans(0, 0);
         o.read(0, 50);
         due("14 today: as it is now", o.known(0, 0, 0), 50);
         due("14 no day ends ahead of day 0", o.known(0, 0, -1), NONE);
@@ -125,14 +119,23 @@ public final class DayPromisesTest {
         o.read(0, 9);
         due("14 not known on days ahead", o.known(0, 3, 2), NONE);
         due("14 known today", o.known(0, 3, 3), 9);
-        while (o.today() < 56) o.close();
+        Scenes.closeUpTo(o, 56);
         o.hand(0, 55, 4);
         due("14 put in after the last day", o.known(0, 55, 55), NONE);
         due("14 and known now", o.raw(0, 55), 4);
     }
 
+    private static void knownBehindManyEntries() {
+        RainOffice o = Scenes.cans(0, 0);
+        o.hand(0, 0, 7);
+        o.close();
+        for (int i = 1; i < 100; i++) o.hand(0, 0, 100 + i);
+        due("14 the first of 100", o.known(0, 0, 0), 7);
+        due("14 the last of 100", o.known(0, 0, 1), 199);
+    }
+
     private static void tooMuch() {
-        RainOffice o = cans(0, 0);
+        RainOffice o = Scenes.cans(0, 0);
         o.read(0, 2000);
         due("15 the greatest", o.why(0, 0), 0);
         o.read(0, 2001);
@@ -145,7 +148,7 @@ public final class DayPromisesTest {
     }
 
     private static void dryAmongWet() {
-        RainOffice o = cans(5, 5, 5, 7, 3, 5, 7, 6);
+        RainOffice o = Scenes.cans(5, 5, 5, 7, 3, 5, 7, 6);
         o.read(0, 0);
         due("15 alone", o.why(0, 0), 0);
         o.read(1, 10);
@@ -173,6 +176,16 @@ public final class DayPromisesTest {
         due("15 0 by hand", o.why(0, 0), 2);
         o.set(1, 3);
         due("15 not so near", o.why(0, 0), 0);
+    }
+
+    private static void dryInAnyPlace() {
+        RainOffice o = Scenes.cans(0, 0, 0, 1, 1, 0);
+        Scenes.day(o, 10, 0, 10);
+        due("15 the first place is wet", o.why(1, 0), 2);
+        Scenes.day(o, 0, 10, 10);
+        due("15 the first place is dry", o.why(0, 1), 2);
+        Scenes.day(o, 10, 10, 0);
+        due("15 the last place is dry", o.why(2, 2), 2);
     }
 
     private static void unlikeTwin() {
@@ -221,7 +234,7 @@ public final class DayPromisesTest {
     }
 
     private static void states() {
-        RainOffice o = cans(0, 0, 9, 9);
+        RainOffice o = Scenes.cans(0, 0, 9, 9);
         due("16 not read", o.state(0, 0), 0);
         due("17 none", o.number(0, 0), NONE);
         o.read(0, 10);
@@ -248,17 +261,34 @@ public final class DayPromisesTest {
     }
 
     private static void mendedByNearness() {
-        RainOffice o = cans(0, 0, 0, 0, 3, 0, 9, 9);
-        day(o, NONE, 100, 10, 1);
+        RainOffice o = Scenes.cans(0, 0, 0, 0, 3, 0, 9, 9);
+        Scenes.day(o, NONE, 100, 10, 1);
         due("17 288 at 0, 16 at 9, 1 at 162", o.number(0, 0), (288 * 100 + 16 * 10 + 1) / 305);
-        day(o, NONE, NONE, 10, 1);
+        Scenes.day(o, NONE, NONE, 10, 1);
         due("17 16 at 9, 1 at 162", o.number(0, 1), 161 / 17);
     }
 
+    private static void mendedByNearAndFar() {
+        RainOffice o = Scenes.cans(0, 0, 0, 0, 1, 0, 9, 9, 8, 9);
+        Scenes.day(o, NONE, 1000, 0, NONE, NONE);
+        due("17 288 at 0, 144 at 1", o.number(0, 0), 288_000 / 432);
+        Scenes.day(o, NONE, NONE, 0, 1000, NONE);
+        due("17 144 at 1, 1 at 162", o.number(0, 1), 1000 / 145);
+        Scenes.day(o, NONE, NONE, 0, NONE, 1000);
+        due("17 144 at 1, 1 at 145", o.number(0, 2), 1000 / 145);
+        RainOffice t = Scenes.cans(0, 0, 2, 3, 2, 2);
+        Scenes.day(t, NONE, 1000, 0);
+        due("17 11 at 13, 18 at 8", t.number(0, 0), 11_000 / 29);
+        RainOffice b = Scenes.cans(0, 0, 2, 3);
+        Scenes.day(b, 7, 1);
+        Scenes.day(b, NONE, 3);
+        due("17 B is 1", b.number(0, 1), 21);
+    }
+
     private static void mendedBySums() {
-        RainOffice o = cans(0, 0, 1, 0);
-        day(o, 20, 30);
-        day(o, NONE, 90);
+        RainOffice o = Scenes.cans(0, 0, 1, 0);
+        Scenes.day(o, 20, 30);
+        Scenes.day(o, NONE, 90);
         due("17 90 times 20 by 30", o.number(0, 1), 60);
         o.hand(1, 0, 37);
         due("17 90 times 20 by 37: 48648 thousandths", o.number(0, 1), 48);
@@ -275,19 +305,19 @@ public final class DayPromisesTest {
         o.hand(0, 2, 0);
         o.hand(0, 0, 0);
         due("17 A is 0", o.number(0, 1), 0);
-        RainOffice t = cans(0, 0, 1, 0, 0, 1);
-        day(t, 1, 3, 3);
-        day(t, NONE, 1, 2);
+        RainOffice t = Scenes.cans(0, 0, 1, 0, 0, 1);
+        Scenes.day(t, 1, 3, 3);
+        Scenes.day(t, NONE, 1, 2);
         due("17 333 and 666 thousandths", t.number(0, 1), 0);
-        day(t, NONE, 4, 2);
+        Scenes.day(t, NONE, 4, 2);
         due("17 both divisions at once: 1333 and 666", t.number(0, 2), 0);
-        day(t, NONE, 4, 3);
+        Scenes.day(t, NONE, 4, 3);
         due("17 1333 and 1000", t.number(0, 3), 1);
     }
 
     private static void mendedByFourNearest() {
-        RainOffice o = cans(5, 5, 5, 6, 6, 5, 5, 4, 4, 5, 5, 3);
-        day(o, NONE, 10, 20, 30, 40, 5000);
+        RainOffice o = Scenes.cans(5, 5, 5, 6, 6, 5, 5, 4, 4, 5, 5, 3);
+        Scenes.day(o, NONE, 10, 20, 30, 40, 5000);
         due("17 the four nearest", o.number(0, 0), 25);
         o.set(0, 35);
         due("17 of those that are trusted", o.number(0, 0), 20);
@@ -296,10 +326,10 @@ public final class DayPromisesTest {
     }
 
     private static void from() {
-        RainOffice o = cans(5, 5, 9, 9, 5, 7, 7, 5, 5, 6, 0, 0);
+        RainOffice o = Scenes.cans(5, 5, 9, 9, 5, 7, 7, 5, 5, 6, 0, 0);
         o.put(6, STORE, 5, 5, 0);
         o.put(7, POST, 5, 5, 0);
-        day(o, NONE, 1, 2, 3, 4, 5, 6);
+        Scenes.day(o, NONE, 1, 2, 3, 4, 5, 6);
         int[] want = {4, 2, 3, 1, NONE};
         for (int i = 0; i < 5; i++) due("18 by nearness, then place " + i, o.from(0, 0, i), want[i]);
         due("18 i -1", o.from(0, 0, -1), NONE);
@@ -309,15 +339,17 @@ public final class DayPromisesTest {
         due("18 nothing", o.from(8, 0, 0), NONE);
         o.put(8, CAN, 5, 5, 0);
         due("18 ahead of its first day", o.from(8, 0, 0), NONE);
+        due("18 a day to come", o.from(0, 1, 0), NONE);
+        due("18 the last day", o.from(0, 55, 0), NONE);
         o.lift(4);
         due("18 what is lifted counts no more", o.from(0, 0, 0), 2);
     }
 
     private static void spread() {
-        RainOffice o = cans(1, 1, 9, 9);
+        RainOffice o = Scenes.cans(1, 1, 9, 9);
         o.put(2, STORE, 0, 0, 0);
-        day(o, 10, 5);
-        day(o, 20, 5);
+        Scenes.day(o, 10, 5);
+        Scenes.day(o, 20, 5);
         o.read(0, 30);
         o.read(1, 5);
         due("16 not read yet", o.state(2, 0), 0);
@@ -338,28 +370,62 @@ public final class DayPromisesTest {
     }
 
     private static void spreadRests() {
-        RainOffice o = cans(1, 1);
+        RainOffice o = Scenes.cans(1, 1);
         o.put(1, STORE, 0, 0, 0);
-        day(o, 1);
-        day(o, 2);
-        day(o, 3);
-        day(o, 1);
-        o.hand(0, 0, 1);
-        o.close();
+        int[] teller = {3, 0, 2, 4};
+        for (int d = 0; d < 4; d++) Scenes.day(o, teller[d]);
+        o.hand(0, 3, 0);
+        o.hand(0, 3, 4);
         o.read(0, 0);
-        o.hand(0, 4, 0);
-        o.read(1, 10);
-        int[] parts = {2, 3, 4, 1, 0, 0};
-        for (int d = 0; d < 6; d++) due("17 10 by 7, rests 3 6 2 3 0: day " + d, o.number(1, d), parts[d]);
-        o.read(1, 8);
-        int[] others = {1, 2, 4, 1, 0, 0};
-        for (int d = 0; d < 6; d++) due("17 8 by 7, rests 1 2 3 1 0: day " + d, o.number(1, d), others[d]);
+        parts(o, 10, 3, 0, 2, 5, 0);
+        parts(o, 11, 4, 0, 2, 5, 0);
+        parts(o, 5, 2, 0, 1, 2, 0);
+        parts(o, 9, 3, 0, 2, 4, 0);
+        parts(o, 1, 0, 0, 0, 1, 0);
+        parts(o, 0, 0, 0, 0, 0, 0);
+        o.hand(0, 0, 2);
+        parts(o, 2, 1, 0, 0, 1, 0);
+        parts(o, 3, 1, 0, 1, 1, 0);
+        parts(o, 5000, 1250, 0, 1250, 2500, 0);
+        o.hand(0, 4, 1);
+        parts(o, 5, 1, 0, 1, 2, 1);
+        RainOffice one = Scenes.cans(1, 1);
+        one.put(1, STORE, 0, 0, 0);
+        Scenes.day(one, 1);
+        one.read(0, 0);
+        parts(one, 5, 5, 0);
+        one.hand(0, 1, 3);
+        parts(one, 1, 0, 1);
+    }
+
+    /** The store in place 1 is read today, and spreads so to the days from day 0 on. */
+    private static void parts(RainOffice o, int v, int... want) {
+        o.read(1, v);
+        for (int d = 0; d < want.length; d++) due("17 day " + d + " of " + v, o.number(1, d), want[d]);
+    }
+
+    private static void spreadByNearest() {
+        RainOffice o = new RainOffice();
+        o.put(0, STORE, 0, 0, 0);
+        o.put(1, CAN, 9, 9, 0);
+        o.put(2, CAN, 1, 1, 0);
+        o.put(3, CAN, 3, 3, 0);
+        o.put(4, CAN, 1, 1, 0);
+        Scenes.day(o, NONE, 1, 2, 3, 1);
+        Scenes.day(o, 60, 1, 1, 1, 5);
+        due("17 not the first, not the last", o.number(0, 0), 40);
+        o.hand(2, 1, NONE);
+        due("17 it has none of the last day, so the other on its square", o.number(0, 0), 10);
+        o.hand(4, 0, NONE);
+        due("17 it has none of the first day", o.number(0, 0), 45);
+        o.hand(3, 0, 3000);
+        due("17 doubted on a day", o.number(0, 0), 30);
     }
 
     private static void spreadWithoutTeller() {
-        RainOffice o = cans(1, 1, 9, 9);
+        RainOffice o = Scenes.cans(1, 1, 9, 9);
         o.put(2, STORE, 0, 0, 0);
-        day(o, 0, 4);
+        Scenes.day(o, 0, 4);
         o.read(0, 0);
         o.read(1, 4);
         o.read(2, 50);
@@ -374,13 +440,13 @@ public final class DayPromisesTest {
     }
 
     private static void spreadSinceLastReading() {
-        RainOffice o = cans(1, 1);
-        day(o, 500);
+        RainOffice o = Scenes.cans(1, 1);
+        Scenes.day(o, 500);
         o.put(1, STORE, 0, 0, 0);
-        day(o, 10, NONE);
-        day(o, 10, 8);
-        day(o, 20, NONE);
-        day(o, 40, NONE);
+        Scenes.day(o, 10, NONE);
+        Scenes.day(o, 10, 8);
+        Scenes.day(o, 20, NONE);
+        Scenes.day(o, 40, NONE);
         o.read(0, 20);
         o.read(1, 40);
         int[] parts = {NONE, 4, 4, 10, 20, 10};
@@ -407,8 +473,8 @@ public final class DayPromisesTest {
     }
 
     private static void noSuchDay() {
-        RainOffice o = cans(0, 0, 1, 1);
-        day(o, 1, 1);
+        RainOffice o = Scenes.cans(0, 0, 1, 1);
+        Scenes.day(o, 1, 1);
         for (int day : new int[] {-1, 56, Integer.MAX_VALUE, Integer.MIN_VALUE}) {
             due("13 no day " + day, o.raw(0, day), NONE);
             due("14 no day " + day, o.known(0, day, 0), NONE);

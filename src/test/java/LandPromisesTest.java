@@ -21,21 +21,10 @@ public final class LandPromisesTest {
         CHECK.end("LandPromisesTest");
     }
 
-    private static RainOffice cans(int... squares) {
-        RainOffice o = new RainOffice();
-        for (int p = 0; p < squares.length / 2; p++) o.put(p, CAN, squares[2 * p], squares[2 * p + 1], 0);
-        return o;
-    }
-
-    private static void day(RainOffice o, int... v) {
-        for (int p = 0; p < v.length; p++) if (v[p] != NONE) o.read(p, v[p]);
-        o.close();
-    }
-
     private static void parts() {
-        RainOffice o = cans(4, 0, 0, 0, 4, 0);
+        RainOffice o = Scenes.cans(4, 0, 0, 0, 4, 0);
         due("19 none tells", o.part(0, 0, 0), NONE);
-        day(o, 1, 1, 1);
+        Scenes.day(o, 1, 1, 1);
         due("19 on it", o.part(0, 0, 0), 1);
         due("19 like distances, the lesser place", o.part(2, 0, 0), 0);
         due("19 on one square, the lesser place", o.part(9, 9, 0), 0);
@@ -50,7 +39,7 @@ public final class LandPromisesTest {
     }
 
     private static void partsOfTellers() {
-        RainOffice o = cans(0, 0, 5, 5);
+        RainOffice o = Scenes.cans(0, 0, 5, 5);
         o.put(2, STORE, 1, 0, 0);
         o.put(3, POST, 0, 0, 0);
         o.read(1, 4);
@@ -69,7 +58,7 @@ public final class LandPromisesTest {
     }
 
     private static void squares() {
-        RainOffice o = cans(0, 0, 9, 0);
+        RainOffice o = Scenes.cans(0, 0, 9, 0);
         o.put(2, POST, 5, 5, 0);
         due("20 none tells", o.squares(0, 0), 0);
         o.read(0, 1);
@@ -78,6 +67,12 @@ public final class LandPromisesTest {
         o.read(1, 1);
         due("20 half", o.squares(0, 0), 50);
         due("20 the other half", o.squares(1, 0), 50);
+        o.put(3, CAN, 0, 3, 0);
+        o.read(3, 1);
+        due("20 nearer than 0, 3 and 9, 0", o.squares(0, 0), 10);
+        // of each y from 2 on those with 3x < 12 + y: 5, 5, 6, 6, 6, 7, 7, 7 (where it is like, place 1 has it)
+        due("20 nearer than 0, 0 and 9, 0", o.squares(3, 0), 49);
+        o.lift(3);
         due("20 post", o.squares(2, 0), WRONG);
         due("20 nothing", o.squares(3, 0), NONE);
         due("20 no place", o.squares(16, 0), NONE);
@@ -104,7 +99,7 @@ public final class LandPromisesTest {
     }
 
     private static void rain() {
-        RainOffice o = cans(0, 0, 9, 9);
+        RainOffice o = Scenes.cans(0, 0, 9, 9);
         o.read(0, 7);
         due("22 no squares", o.rain(0, 0), NONE);
         o.valley(0, 0, 0, true);
@@ -126,11 +121,12 @@ public final class LandPromisesTest {
     }
 
     private static void mean() {
-        RainOffice o = cans(0, 0, 9, 9);
+        RainOffice o = Scenes.cans(0, 0, 9, 9);
         o.read(0, 7);
         o.read(1, 6);
         due("23 no squares", o.mean(0, 0), NONE);
         o.valley(0, 0, 0, true);
+        due("23 of one square", o.mean(0, 0), 7000);
         o.valley(0, 9, 9, true);
         due("23 13 by 2", o.mean(0, 0), 6500);
         o.valley(0, 0, 1, true);
@@ -141,11 +137,11 @@ public final class LandPromisesTest {
     }
 
     private static void flow() {
-        RainOffice o = cans(0, 0);
+        RainOffice o = Scenes.cans(0, 0);
         o.valley(0, 0, 0, true);
         due("24 none tells", o.flow(0, 0), 0);
         due("24 no squares", o.flow(1, 0), 0);
-        for (int d = 0; d < 9; d++) day(o, d + 1);
+        for (int d = 0; d < 9; d++) Scenes.day(o, d + 1);
         due("24 at first this day alone", o.flow(0, 8), 9);
         for (int k = 0; k < 8; k++) o.set(4 + k, k + 1);
         due("24 day 0", o.flow(0, 0), 1);
@@ -162,10 +158,10 @@ public final class LandPromisesTest {
     }
 
     private static void flowOfTheLastDays() {
-        RainOffice o = cans(0, 0);
+        RainOffice o = Scenes.cans(0, 0);
         o.valley(0, 5, 5, true);
         o.set(11, 3);
-        while (o.today() < 55) o.close();
+        Scenes.closeUpTo(o, 55);
         o.read(0, 50);
         due("24 day 55", o.flow(0, 55), 50);
         due("24 day 62", o.flow(0, 62), 150);
@@ -176,11 +172,11 @@ public final class LandPromisesTest {
     }
 
     private static void greatestFlow() {
-        RainOffice o = cans(0, 0);
+        RainOffice o = Scenes.cans(0, 0);
         o.set(0, 5000);
         for (int x = 0; x < 10; x++) for (int y = 0; y < 10; y++) o.valley(0, x, y, true);
         for (int k = 0; k < 8; k++) o.set(4 + k, 1000);
-        for (int d = 0; d < 8; d++) day(o, 5000);
+        for (int d = 0; d < 8; d++) Scenes.day(o, 5000);
         due("22 greatest", o.rain(0, 7), 500_000);
         due("23 greatest", o.mean(0, 7), 5_000_000);
         due("24 greatest", o.flow(0, 7), 4_000_000_000L);
@@ -189,11 +185,11 @@ public final class LandPromisesTest {
     }
 
     private static void ahead() {
-        RainOffice o = cans(0, 0);
+        RainOffice o = Scenes.cans(0, 0);
         o.valley(0, 0, 0, true);
         o.set(5, 2);
         o.set(6, 5);
-        day(o, 100);
+        Scenes.day(o, 100);
         o.read(0, 10);
         due("25 today: 210", o.ahead(0, 209), 1);
         due("25 tomorrow: 520", o.ahead(0, 210), 2);

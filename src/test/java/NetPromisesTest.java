@@ -32,10 +32,6 @@ public final class NetPromisesTest {
         return o;
     }
 
-    private static void closeUpTo(RainOffice o, int day) {
-        while (o.today() < day) o.close();
-    }
-
     private static void constants() {
         due("NONE", NONE, -1);
         due("WRONG", WRONG, -2);
@@ -109,7 +105,7 @@ public final class NetPromisesTest {
 
     private static void look() {
         RainOffice o = new RainOffice();
-        closeUpTo(o, 3);
+        Scenes.closeUpTo(o, 3);
         o.put(0, TWIN, 4, 7, 11);
         o.put(1, POST, 8, 2, 5);
         o.put(2, SNOW, 0, 0, 5);
@@ -151,7 +147,7 @@ public final class NetPromisesTest {
         due("5 snow lies", o.look(SNOW, 5), 5000);
         due("5 the latest", o.read(CAN, 12), 1);
         due("5 counts", o.raw(CAN, 0), 12);
-        closeUpTo(o, 56);
+        Scenes.closeUpTo(o, 56);
         due("5 after the last day", o.read(CAN, 1), NONE);
         due("5 snow after the last day", o.read(SNOW, 1), NONE);
         due("5 no more snow", o.look(SNOW, 5), 5000);
@@ -173,7 +169,7 @@ public final class NetPromisesTest {
         due("6 7 eighths ahead, 1 now: 40 - 3", o.raw(TIPPER, 1), 37);
         o.full(TIPPER, 5);
         due("6 the latest: 40 - 1", o.raw(TIPPER, 1), 39);
-        closeUpTo(o, 56);
+        Scenes.closeUpTo(o, 56);
         due("6 after the last day", o.full(TIPPER, 1), NONE);
         due("6 another after the last day", o.full(TWIN, 1), WRONG);
     }
@@ -199,7 +195,7 @@ public final class NetPromisesTest {
         due("7 nothing in the place", o.melt(6, 1), NONE);
         due("7 no place", o.melt(16, 1), NONE);
         o.read(SNOW, 10);
-        closeUpTo(o, 56);
+        Scenes.closeUpTo(o, 56);
         due("7 after the last day", o.melt(SNOW, 1), NONE);
         due("7 another after the last day", o.melt(CAN, 1), WRONG);
     }
@@ -214,13 +210,13 @@ public final class NetPromisesTest {
         due("8 nothing", o.other(6, 1), NONE);
         o.read(TWIN, 249);
         due("8 both times the size by 2", o.raw(TWIN, 0), 998);
-        closeUpTo(o, 56);
+        Scenes.closeUpTo(o, 56);
         due("8 after the last day", o.other(TWIN, 1), NONE);
     }
 
     private static void hand() {
         RainOffice o = oneOfEach();
-        closeUpTo(o, 2);
+        Scenes.closeUpTo(o, 2);
         o.put(6, CAN, 9, 9, 0);
         due("9 first", o.hand(CAN, 0, 0), 1);
         due("9 of all gauges", o.hand(TWIN, 2, 5000), 2);
@@ -245,7 +241,7 @@ public final class NetPromisesTest {
         due("9 the latest", o.raw(CAN, 2), 8);
         o.hand(CAN, 2, NONE);
         due("9 as if not read", o.raw(CAN, 2), NONE);
-        closeUpTo(o, 56);
+        Scenes.closeUpTo(o, 56);
         due("9 on day 56, of day 55", o.hand(CAN, 55, 3), 10);
         due("9 for day 56", o.hand(CAN, 56, 3), NONE);
         due("9 it is known", o.raw(CAN, 55), 3);

@@ -20,29 +20,18 @@ public final class WeekPromisesTest {
         CHECK.end("WeekPromisesTest");
     }
 
-    private static RainOffice cans(int... squares) {
-        RainOffice o = new RainOffice();
-        for (int p = 0; p < squares.length / 2; p++) o.put(p, CAN, squares[2 * p], squares[2 * p + 1], 0);
-        return o;
-    }
-
-    private static void day(RainOffice o, int... v) {
-        for (int p = 0; p < v.length; p++) if (v[p] != NONE) o.read(p, v[p]);
-        o.close();
-    }
-
     /** A week in which each place is read once, on its first day, and 0 on the others. */
     private static void week(RainOffice o, int... v) {
-        day(o, v);
-        for (int d = 1; d < 7; d++) day(o, new int[v.length]);
+        Scenes.day(o, v);
+        for (int d = 1; d < 7; d++) Scenes.day(o, new int[v.length]);
     }
 
     private static void weeks() {
-        RainOffice o = cans(0, 0, 9, 9, 0, 9);
-        day(o, 1, 10, 100);
-        day(o, 2, 20, NONE);
-        day(o, NONE, 30, 300);
-        day(o, 4, 40, 2001);
+        RainOffice o = Scenes.cans(0, 0, 9, 9, 0, 9);
+        Scenes.day(o, 1, 10, 100);
+        Scenes.day(o, 2, 20, NONE);
+        Scenes.day(o, NONE, 30, 300);
+        Scenes.day(o, 4, 40, 2001);
         o.read(0, 5);
         o.read(1, 50);
         o.read(2, 500);
@@ -64,9 +53,9 @@ public final class WeekPromisesTest {
     }
 
     private static void weeksOfFourNeighbours() {
-        RainOffice o = cans(5, 5, 9, 9, 5, 6, 5, 7, 5, 8, 5, 2, 0, 0);
-        for (int d = 0; d < 7; d++) day(o, 1, NONE, 2, 3, 4, 5, NONE);
-        day(o, 1, 9, 2, 3, 4, 5, 9);
+        RainOffice o = Scenes.cans(5, 5, 9, 9, 5, 6, 5, 7, 5, 8, 5, 2, 0, 0);
+        for (int d = 0; d < 7; d++) Scenes.day(o, 1, NONE, 2, 3, 4, 5, NONE);
+        Scenes.day(o, 1, 9, 2, 3, 4, 5, 9);
         due("26 the four nearest alone", o.week(0, 0, 0), 7);
         due("26 their sum", o.week(0, 0, 1), 7 * 14);
         due("26 week 1 begins on day 7", o.week(0, 1, 1), 14);
@@ -77,7 +66,7 @@ public final class WeekPromisesTest {
     }
 
     private static void weeksAlone() {
-        RainOffice o = cans(0, 0);
+        RainOffice o = Scenes.cans(0, 0);
         week(o, 10);
         week(o, 30);
         due("26 all neighbours of none are trusted", o.week(0, 1, 0), 30);
@@ -86,7 +75,7 @@ public final class WeekPromisesTest {
     }
 
     private static void unequalParts() {
-        RainOffice o = cans(0, 0, 1, 1);
+        RainOffice o = Scenes.cans(0, 0, 1, 1);
         week(o, 10, 10);
         week(o, 11, 13);
         week(o, 40, 20);
@@ -106,7 +95,7 @@ public final class WeekPromisesTest {
     }
 
     private static void likeBreaks() {
-        RainOffice o = cans(0, 0, 1, 1);
+        RainOffice o = Scenes.cans(0, 0, 1, 1);
         for (int w = 0; w < 4; w++) week(o, 10, 5);
         for (int w = 1; w < 4; w++) due("28 like " + w, o.misses(0, w), 0);
         due("27 the first of like ones", o.cleft(0), 1);
@@ -115,7 +104,7 @@ public final class WeekPromisesTest {
     }
 
     private static void noSumOfNeighbours() {
-        RainOffice o = cans(0, 0, 1, 1);
+        RainOffice o = Scenes.cans(0, 0, 1, 1);
         week(o, 10, 0);
         week(o, 20, 0);
         week(o, 30, 10);
@@ -125,12 +114,12 @@ public final class WeekPromisesTest {
     }
 
     private static void wholeWeeks() {
-        RainOffice o = cans(0, 0, 1, 1);
+        RainOffice o = Scenes.cans(0, 0, 1, 1);
         due("27 no week", o.cleft(0), NONE);
         week(o, 1, 1);
         due("27 one whole week", o.cleft(0), NONE);
         due("28 one whole week", o.misses(0, 1), NONE);
-        for (int d = 0; d < 6; d++) day(o, 1, 1);
+        for (int d = 0; d < 6; d++) Scenes.day(o, 1, 1);
         o.read(0, 1);
         o.read(1, 1);
         due("27 the second has not ended", o.cleft(0), NONE);
@@ -142,7 +131,7 @@ public final class WeekPromisesTest {
     }
 
     private static void lastWeek() {
-        RainOffice o = cans(0, 0, 1, 1);
+        RainOffice o = Scenes.cans(0, 0, 1, 1);
         for (int w = 0; w < 8; w++) week(o, w < 7 ? 10 : 90, 10);
         due("today", o.today(), 56);
         due("27 the last week of all", o.cleft(0), 7);
