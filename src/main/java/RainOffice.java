@@ -193,22 +193,22 @@ public final class RainOffice {
     // ---- the numbers of the days ----
 
     public int raw(int p, int day) {
-        int fault = gaugeFault(p);
+        int fault = gaugeDayFault(p, day);
         return fault != FINE ? fault : net.numberKnown(p, day, DAYS);
     }
 
     public int known(int p, int day, int then) {
-        int fault = gaugeFault(p);
+        int fault = gaugeDayFault(p, day);
         return fault != FINE ? fault : net.numberKnown(p, day, then);
     }
 
     public int why(int p, int day) {
-        int fault = gaugeFault(p);
+        int fault = gaugeDayFault(p, day);
         return fault != FINE ? fault : openBooks().doubtOf(p, day);
     }
 
     public int state(int p, int day) {
-        int fault = gaugeFault(p);
+        int fault = gaugeDayFault(p, day);
         if (fault != FINE) {
             return fault;
         }
@@ -223,7 +223,7 @@ public final class RainOffice {
     }
 
     public int number(int p, int day) {
-        int fault = gaugeFault(p);
+        int fault = gaugeDayFault(p, day);
         if (fault != FINE) {
             return fault;
         }
@@ -252,7 +252,7 @@ public final class RainOffice {
     }
 
     public int squares(int p, int day) {
-        int fault = gaugeFault(p);
+        int fault = gaugeDayFault(p, day);
         return fault != FINE ? fault : land.countOwned(openBooks(), p, day);
     }
 
@@ -363,6 +363,12 @@ public final class RainOffice {
             return NONE;
         }
         return net.places[p].kind == POST ? WRONG : FINE;
+    }
+
+    /** FINE for a GAUGE and a DAY; else what a call that wants both answers: the PLACE counts first. */
+    private int gaugeDayFault(int p, int day) {
+        int fault = gaugeFault(p);
+        return fault == FINE && !isDay(day) ? NONE : fault;
     }
 
     /** FINE for a GAUGE that is no STORE; else what a call that wants one answers. */

@@ -30,6 +30,8 @@ public final class DayPromisesTest {
         spreadSinceLastReading();
         wrongPlaces();
         noSuchDay();
+        lastDayAndDaysToCome();
+        wrongPlaceAndNoSuchDay();
         CHECK.end("DayPromisesTest");
     }
 
@@ -472,16 +474,52 @@ public final class DayPromisesTest {
         }
     }
 
+    private static final int[] NO_DAYS = {-1, -2, 56, 63, Integer.MAX_VALUE, Integer.MIN_VALUE};
+
     private static void noSuchDay() {
         RainOffice o = Scenes.cans(0, 0, 1, 1);
-        Scenes.day(o, 1, 1);
-        for (int day : new int[] {-1, 56, Integer.MAX_VALUE, Integer.MIN_VALUE}) {
-            due("13 no day " + day, o.raw(0, day), NONE);
-            due("14 no day " + day, o.known(0, day, 0), NONE);
-            due("15 no day " + day, o.why(0, day), 0);
-            due("16 no day " + day, o.state(0, day), 0);
-            due("17 no day " + day, o.number(0, day), NONE);
+        o.put(2, STORE, 2, 2, 0);
+        Scenes.day(o, 1, 3000, 5);
+        for (int day : NO_DAYS) {
+            for (int p = 0; p < 3; p++) {
+                due("13 no day " + day, o.raw(p, day), NONE);
+                due("14 no day " + day, o.known(p, day, 0), NONE);
+                due("15 no day " + day, o.why(p, day), NONE);
+                due("16 no day " + day, o.state(p, day), NONE);
+                due("17 no day " + day, o.number(p, day), NONE);
+            }
             due("18 no day " + day, o.from(0, day, 0), NONE);
+        }
+    }
+
+    private static void lastDayAndDaysToCome() {
+        RainOffice o = Scenes.cans(0, 0);
+        o.put(1, STORE, 2, 2, 0);
+        for (int day : new int[] {1, 55}) {
+            for (int p = 0; p < 2; p++) {
+                due("15 a day that is to come " + day, o.why(p, day), 0);
+                due("16 a day that is to come " + day, o.state(p, day), 0);
+            }
+        }
+        Scenes.closeUpTo(o, 55);
+        Scenes.day(o, 3000, 0);
+        due("15 the last day", o.why(0, 55), 1);
+        due("16 the last day", o.state(0, 55), 2);
+        due("16 the last day of a store", o.state(1, 55), 4);
+    }
+
+    private static void wrongPlaceAndNoSuchDay() {
+        RainOffice o = new RainOffice();
+        o.put(0, POST, 0, 0, 0);
+        for (int day : NO_DAYS) {
+            due("13 post, no day " + day, o.raw(0, day), WRONG);
+            due("14 post, no day " + day, o.known(0, day, 0), WRONG);
+            due("15 post, no day " + day, o.why(0, day), WRONG);
+            due("16 post, no day " + day, o.state(0, day), WRONG);
+            due("17 post, no day " + day, o.number(0, day), WRONG);
+            due("18 post, no day " + day, o.from(0, day, 0), WRONG);
+            due("15 nothing, no day " + day, o.why(1, day), NONE);
+            due("16 nothing, no day " + day, o.state(1, day), NONE);
         }
     }
 }

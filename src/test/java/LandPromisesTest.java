@@ -76,7 +76,13 @@ public final class LandPromisesTest {
         due("20 post", o.squares(2, 0), WRONG);
         due("20 nothing", o.squares(3, 0), NONE);
         due("20 no place", o.squares(16, 0), NONE);
-        due("20 no such day", o.squares(0, 56), 0);
+        due("20 the last day", o.squares(0, 55), 0);
+        for (int day : new int[] {-1, 56, 63, Integer.MAX_VALUE, Integer.MIN_VALUE}) {
+            due("20 no day " + day, o.squares(0, day), NONE);
+            due("20 no day, tells not " + day, o.squares(1, day), NONE);
+            due("20 post, no day " + day, o.squares(2, day), WRONG);
+            due("20 nothing, no day " + day, o.squares(3, day), NONE);
+        }
     }
 
     private static void valleys() {

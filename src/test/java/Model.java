@@ -215,6 +215,11 @@ final class Model {
         return kinds.indexOf('0' + net.get(p).kind) < 0 ? WRONG : 0;
     }
 
+    int faultOfDay(int p, int day) {
+        int fault = fault(p, "01234");
+        return fault == 0 && (day < 0 || day > 55) ? NONE : fault;
+    }
+
     static int plain(Integer n) { return n == null ? NONE : n; }
 
     int put(int p, int kind, int x, int y, int size) {
@@ -303,22 +308,22 @@ final class Model {
     }
 
     int raw(int p, int day) {
-        int fault = fault(p, "01234");
+        int fault = faultOfDay(p, day);
         return fault != 0 ? fault : plain(rawNow(net.get(p), day));
     }
 
     int known(int p, int day, int then) {
-        int fault = fault(p, "01234");
+        int fault = faultOfDay(p, day);
         return fault != 0 ? fault : plain(rawKnown(net.get(p), day, then));
     }
 
     int why(int p, int day) {
-        int fault = fault(p, "01234");
+        int fault = faultOfDay(p, day);
         return fault != 0 ? fault : doubt(net.get(p), day);
     }
 
     int state(int p, int day) {
-        int fault = fault(p, "01234");
+        int fault = faultOfDay(p, day);
         if (fault != 0) return fault;
         Thing t = net.get(p);
         if (t.store()) return spread(t, day) == null ? 0 : 4;
@@ -348,7 +353,7 @@ final class Model {
     }
 
     int squares(int p, int day) {
-        int fault = fault(p, "01234");
+        int fault = faultOfDay(p, day);
         if (fault != 0) return fault;
         int many = 0;
         for (int x = 0; x < 10; x++) for (int y = 0; y < 10; y++) if (part(x, y, day) == p) many++;
