@@ -241,8 +241,8 @@ public final class RainOffice {
         if (fault != FINE) {
             return fault;
         }
-        int count = mender.gather(openBooks(), p, day);
-        return i >= 0 && i < count ? mender.circle.placeAt(i) : NONE;
+        mender.gather(openBooks(), p, day);
+        return mender.circle.placeAt(i);
     }
 
     // ---- squares and valleys ----

@@ -5,8 +5,9 @@ import java.util.Random;
 /** Long runs of calls with drawn arguments, answered as the plain model answers them. */
 public final class RandomRunsTest {
     private static final int CALLS = 512;
-    private static final int[] EXTREMES =
-        {Integer.MIN_VALUE, -2, -1, 0, 7, 8, 15, 16, 55, 56, 57, 63, 64, 250, 251, 1000, 5000, 5001, Integer.MAX_VALUE};
+    /** The numbers on both sides of the document's bounds. */
+    private static final int[] EXTREMES = {Integer.MIN_VALUE, -2, -1, 0, 1, 3, 4, 5, 6, 7, 8, 9, 10, 11, 12, 15, 16, 20,
+        21, 54, 55, 56, 57, 63, 64, 100, 101, 200, 201, 250, 251, 1000, 1001, 2000, 2001, 5000, 5001, Integer.MAX_VALUE};
 
     private final Random draw;
     private final RainOffice office = new RainOffice();
@@ -17,6 +18,8 @@ public final class RandomRunsTest {
     private final int closing;
     private final int asking;
     private final boolean diligent;
+    /** One of so many arguments is an extreme one. */
+    private final int strange;
     private int reader = 0;
     private int level = 12;
     private long got;
@@ -29,6 +32,7 @@ public final class RandomRunsTest {
         closing = 1 + draw.nextInt(10);
         asking = draw.nextInt(95);
         diligent = draw.nextInt(4) > 0;
+        strange = draw.nextInt(6) == 0 ? 4 : 60;
     }
 
     public static void main(String[] args) {
@@ -50,7 +54,7 @@ public final class RandomRunsTest {
     private int below(int n) { return draw.nextInt(n); }
 
     /** Mostly what is in use, now and then any number. */
-    private int or(int usual) { return below(60) == 0 ? EXTREMES[below(EXTREMES.length)] : usual; }
+    private int or(int usual) { return below(strange) == 0 ? EXTREMES[below(EXTREMES.length)] : usual; }
 
     private int p() { return or(below(places)); }
 
