@@ -22,6 +22,7 @@ public final class DayPromisesTest {
         mendedByNearAndFar();
         mendedBySums();
         mendedByFourNearest();
+        greatestMended();
         from();
         spread();
         spreadRests();
@@ -325,6 +326,18 @@ public final class DayPromisesTest {
         due("17 of those that are trusted", o.number(0, 0), 20);
         o.hand(5, 0, 34);
         due("17 the fifth in place of a doubted one", o.number(0, 0), (144 * 60 + 36 * 34) / (144 * 3 + 36));
+    }
+
+    private static void greatestMended() {
+        RainOffice o = Scenes.cans(0, 0, 0, 0);
+        o.set(0, 5000);
+        for (int day = 0; day < 55; day++) Scenes.day(o, 5000, day == 3 ? 1 : 0);
+        o.read(1, 5000);
+        due("17 5000 times 275000 by 1", o.number(0, 55), 1_375_000_000);
+        o.hand(1, 3, 5000);
+        due("17 5000 times 275000 by 5000", o.number(0, 55), 275_000);
+        o.hand(1, 3, 0);
+        due("17 5000, as B is 0", o.number(0, 55), 5000);
     }
 
     private static void from() {

@@ -13,6 +13,9 @@ public final class LandPromisesTest {
         squares();
         valleys();
         rain();
+        rainOfSquaresAcross();
+        rainOfStore();
+        valleysStay();
         mean();
         flow();
         flowOfTheLastDays();
@@ -124,6 +127,56 @@ public final class LandPromisesTest {
         o.read(0, 0);
         o.read(1, 0);
         due("22 no rain is 0", o.rain(0, 0), 0);
+    }
+
+    private static void rainOfSquaresAcross() {
+        RainOffice o = Scenes.cans(9, 0, 0, 9);
+        o.read(0, 7);
+        o.read(1, 100);
+        due("19 nearer to 9, 0", o.part(8, 1, 0), 0);
+        due("19 nearer to 0, 9", o.part(1, 8, 0), 1);
+        o.valley(0, 8, 1, true);
+        o.valley(1, 1, 8, true);
+        due("22 of a square with a great x", o.rain(0, 0), 7);
+        due("22 of a square with a great y", o.rain(1, 0), 100);
+        o.valley(0, 2, 0, true);
+        due("22 2, 0 is nearer to 9, 0", o.rain(0, 0), 14);
+        o.valley(0, 0, 2, true);
+        due("22 0, 2 is nearer to 0, 9", o.rain(0, 0), 114);
+    }
+
+    private static void rainOfStore() {
+        RainOffice o = Scenes.cans(0, 0);
+        o.put(1, STORE, 9, 9, 0);
+        Scenes.day(o, 10);
+        Scenes.day(o, 30, 80);
+        o.valley(0, 0, 0, true);
+        o.valley(0, 9, 9, true);
+        o.valley(0, 8, 8, true);
+        o.set(5, 1);
+        due("22 what a store spreads to the first day: 10, and 20 twice", o.rain(0, 0), 50);
+        due("22 what it spreads to the last day: 30, and 60 twice", o.rain(0, 1), 150);
+        due("23 50 by 3", o.mean(0, 0), 16_666);
+        due("24 of both days", o.flow(0, 1), 200);
+        due("25 today: 150 of the day ahead", o.ahead(0, 149), 2);
+        due("20 the 45 nearer to it", o.squares(1, 0), 45);
+    }
+
+    private static void valleysStay() {
+        RainOffice o = Scenes.cans(0, 0);
+        o.valley(0, 0, 0, true);
+        o.valley(0, 5, 5, true);
+        o.read(0, 4);
+        o.lift(0);
+        due("21 a gauge goes, the squares stay", o.valley(0, 9, 9, false), 2);
+        due("22 but none tells", o.rain(0, 0), NONE);
+        due("24 and nothing flows", o.flow(0, 0), 0);
+        o.close();
+        due("21 a day ends, the squares stay", o.valley(0, 9, 9, false), 2);
+        o.put(0, CAN, 9, 0, 0);
+        o.read(0, 3);
+        due("22 of the squares that stayed", o.rain(0, 1), 6);
+        due("21 another valley has none of them", o.valley(1, 9, 9, false), 0);
     }
 
     private static void mean() {

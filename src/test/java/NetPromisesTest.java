@@ -22,6 +22,7 @@ public final class NetPromisesTest {
         handLimit();
         closeAndToday();
         set();
+        ownMemory();
         CHECK.end("NetPromisesTest");
     }
 
@@ -296,5 +297,34 @@ public final class NetPromisesTest {
         due("12 above the greatest, of readings made before, too", o.why(0, 0), 1);
         o.set(0, -1);
         due("12 a refused one changes nothing", o.why(0, 0), 1);
+    }
+
+    /** "All memory is the class's own": of two offices neither sees what the other is told. */
+    private static void ownMemory() {
+        RainOffice busy = oneOfEach();
+        RainOffice idle = new RainOffice();
+        busy.set(0, 5);
+        busy.set(4, 0);
+        busy.read(CAN, 9);
+        busy.hand(CAN, 0, 8);
+        busy.valley(0, 0, 0, true);
+        busy.close();
+        RainOffice late = new RainOffice();
+        for (RainOffice o : new RainOffice[] {idle, late}) {
+            due("1 day 0", o.today(), 0);
+            due("1 nothing lies there", o.look(CAN, 0), NONE);
+            due("1 no squares", o.valley(0, 9, 9, false), 0);
+            due("1 put there", o.put(CAN, CAN, 0, 0, 0), CAN);
+            due("1 not read", o.raw(CAN, 0), NONE);
+            due("1 the first that is put in", o.hand(CAN, 0, 7), 1);
+            due("1 the greatest at first", o.why(CAN, 0), 0);
+            o.valley(0, 5, 5, true);
+            due("1 the unit at first", o.flow(0, 0), 7);
+        }
+        due("1 the other one's day", busy.today(), 1);
+        due("1 the other one's number", busy.raw(CAN, 0), 8);
+        due("1 the other one's rule", busy.why(CAN, 0), 1);
+        due("1 the other one's squares", busy.valley(0, 9, 9, false), 1);
+        due("1 the other one's count", busy.hand(CAN, 0, 7), 2);
     }
 }

@@ -108,6 +108,8 @@ public final class PromiseBoundsTest {
     /** Promise 4: "0 KIND .. 5 what lies (SNOW; 0 of others). NONE for another what." */
     private static void looks() {
         RainOffice o = oneOfEach();
+        o.full(TIPPER, 7);
+        o.other(TWIN, 5);
         for (int p = CAN; p <= POST; p++) {
             o.read(p, 9);
             due("4 what -1 of " + p, o.look(p, -1), NONE);

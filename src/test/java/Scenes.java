@@ -15,7 +15,8 @@ final class Scenes {
         o.close();
     }
 
+    /** Ends days up to one, and never more than there are: a fault of close() is not to hold up a test. */
     static void closeUpTo(RainOffice o, int day) {
-        while (o.today() < day) o.close();
+        for (int ended = 0; ended < 56 && o.today() < day; ended++) o.close();
     }
 }

@@ -275,6 +275,8 @@ public final class TermBoundsTest {
         due("-8 by 8", tipped(8, 1, 1, 0), 7);
         due("15 by 8", tipped(3, 1, 0, 5), 4);
         due("-15 by 8", tipped(3, 1, 5, 0), 2);
+        due("5 times 4 - 3, by 8; not 20 by 8 less 15 by 8", tipped(5, 1, 3, 4), 5);
+        due("5 times 3 - 4, by 8; not 15 by 8 less 20 by 8", tipped(5, 1, 4, 3), 5);
         due("8 less 7, the least above 0", tipped(8, 1, 7, 0), 1);
         due("0 less 0", tipped(1, 0, 7, 0), 0);
         due("0 less 1: below 0", tipped(8, 0, 1, 0), 0);
@@ -498,6 +500,15 @@ public final class TermBoundsTest {
         due("but by hand", o.why(0, 0), 0);
         o.hand(0, 0, NONE);
         due("not read, by hand", o.why(0, 0), 0);
+        o.close();
+        o.read(0, 4);
+        o.other(0, 5);
+        due("4 and 5, whatever was read on the day ahead", o.why(0, 1), 0);
+        o.close();
+        o.read(0, 3);
+        o.other(0, 4);
+        due("3 and 4, whatever was read on the day ahead", o.why(0, 2), 3);
+        due("and the day ahead stays", o.why(0, 1), 0);
     }
 
     private static int unlike(int percent, int v, int other) {

@@ -16,6 +16,7 @@ public final class WeekPromisesTest {
         noSumOfNeighbours();
         wholeWeeks();
         lastWeek();
+        greatestMisses();
         wrongPlaces();
         CHECK.end("WeekPromisesTest");
     }
@@ -138,6 +139,23 @@ public final class WeekPromisesTest {
         due("28 the last week of all", o.misses(0, 7), 0);
         due("28 w 8", o.misses(0, 8), NONE);
         due("26 week 7", o.week(0, 7, 0), 90);
+    }
+
+    private static void greatestMisses() {
+        RainOffice o = Scenes.cans(0, 0, 0, 5, 5, 0, 5, 5, 9, 9);
+        o.set(0, 5000);
+        o.set(1, 0);
+        for (int day = 0; day < 56; day++) {
+            if (day / 7 % 2 == 0) Scenes.day(o, 5000, 0, 0, 0, 0);
+            else Scenes.day(o, 0, 5000, 5000, 5000, 5000);
+        }
+        due("26 A of an even week", o.week(0, 6, 0), 35_000);
+        due("26 B of an odd week", o.week(0, 7, 1), 140_000);
+        // weeks 0 .. 3 and 4 .. 7 alike: 35000 in each even week, 140000 times 70000 by 280000 in each odd one
+        due("28 eight weeks of 35000", o.misses(0, 4), 280_000_000);
+        // week 0 has no B: 35000; weeks 1 .. 7: three of 35000, four of 140000 times 105000 by 560000
+        due("28 35000 and 210000", o.misses(0, 1), 245_000_000);
+        due("27 the least", o.cleft(0), 1);
     }
 
     private static void wrongPlaces() {
